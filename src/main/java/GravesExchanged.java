@@ -387,8 +387,9 @@ public final class GravesExchanged {
 
     private int nextWornOff(int left, int yard) {
         int here = left & now.allOfVillage(1 - yard);
-        int yardOfTheTurn = here != 0 ? here : left;
-        return yardOfTheTurn & -yardOfTheTurn;
+        int inTurn = here != 0 ? here : left;
+        int lowest = inTurn & -inTurn;
+        return lowest;
     }
 
     private static int draw(int z, int winter) {
