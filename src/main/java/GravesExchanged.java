@@ -388,8 +388,7 @@ public final class GravesExchanged {
     private int nextWornOff(int left, int yard) {
         int here = left & now.allOfVillage(1 - yard);
         int inTurn = here != 0 ? here : left;
-        int lowest = inTurn & -inTurn;
-        return lowest;
+        return inTurn & -inTurn;
     }
 
     private static int draw(int z, int winter) {
