@@ -826,6 +826,7 @@ public final class GravesExchanged {
     /** The visitors who go, and how long they take over the bridge in one order or another. */
     private static final class Bridge {
         private static final int SETS = 1 << MOST_VISITORS;
+        private static final int NEVER = 1000000;
 
         int goers;
         private int visitors;
@@ -868,14 +869,14 @@ public final class GravesExchanged {
 
         void tryAllOrders() {
             for (int set = 0; set < SETS; set++) {
-                soonest[set] = Integer.MAX_VALUE;
+                soonest[set] = NEVER;
             }
             begin();
             tryBehind(0, 0);
         }
 
         int soonestOf(int set) {
-            return set >= 0 && set < SETS ? soonest[set] : Integer.MAX_VALUE;
+            return set >= 0 && set < SETS ? soonest[set] : NEVER;
         }
 
         int inBestOrder(int k) {
