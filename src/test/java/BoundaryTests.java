@@ -1153,9 +1153,11 @@ public final class BoundaryTests {
     }
 
     private static void mend() {
-        says(16, "by how few CHANGES of two PLOTS each (of it) everyone in it, DOUBLES too, lies where he would");
+        says(16, "MEND. NONE; BAD.");
         ahead(BUSY);
         edges("mend #", 0, 1);
+
+        says(16, "by how few CHANGES of two PLOTS each (of it) everyone in it, DOUBLES too, lies where he would");
         ahead(laid("y8;" + "d0,2,0;".repeat(8)));
         due("mend 0", 0);
         due("mend 1", 0);
@@ -1282,6 +1284,11 @@ public final class BoundaryTests {
         due(laid("d0,0,9;d1,0,9;v0,20;v1,1;") + " | takes 0", 42);
         // 0 over at 1, 1 over at 2; 0 stays till 7 and is back at 8, and only then 1, at 9.
         due(laid("d0,0,0;d1,0,9;v0,1;v1,1;") + " | takes 0", 9);
+
+        says(18, "Who comes back does when the BRIDGE is free");
+        // 0 over at 1, ready at 2; 1 is on the bridge till 2, or till 3; 0 back a minute later, then 1.
+        due(laid("d0,0,9;d1,0,9;v0,1;v1,1;") + " | takes 0", 4);
+        due(laid("d0,0,9;d1,0,9;v0,1;v1,2;") + " | takes 0", 6);
 
         says(18, "At last who is over yonder comes back.");
         // 1 over at 2, 0 back at 3; 1 stays till 8 and is back at 9.
