@@ -1364,6 +1364,16 @@ public final class BoundaryTests {
         due("tour 0", 0);
         due("tour 1", 2);
         due("tour 2", 1);
+
+        says(19, "TOUR: of all orders that by which all are back soonest");
+        // An order has each of them once: were 1 to go a second time, between 2 and 3, all would be back as soon.
+        ahead(laid("y8;d0,0,0;d1,2,0;d0,0,1;d0,0,2;v0,5;v1,1;v2,5;v3,5;"));
+        due("tour -1", 51);
+        due("tour 0", 0);
+        due("tour 1", 1);
+        due("tour 2", 2);
+        due("tour 3", 3);
+        due("tour 4", NONE);
     }
 
     private static void enough() {

@@ -17,6 +17,7 @@ import java.util.regex.Pattern;
 /** The public face of the class, and the rules of LANGUAGE.md that a look at it can tell. Runs in the project's folder. */
 public final class FaceTests {
     private static final Path SOURCE = Path.of("src/main/java/GravesExchanged.java");
+    private static final Path DOCUMENT = Path.of("../shared/DOC.md");
     // Each call with how many numbers it takes.
     private static final String FACE = "write1 wipe0 fault0 lay0 dead2 plot2 visitor2 bury3 change3 forgive2 visit2 undo0"
         + " right1 moved0 mend1 grudge0 takes1 tour1 enough0 leave0 seen2 forget0 was1 owed1 balance0 names1 next3"
@@ -32,7 +33,11 @@ public final class FaceTests {
         for (Class<?> c : allClasses()) {
             members(c);
         }
-        source(withoutComments(Files.readString(SOURCE)));
+        String written = Files.readString(SOURCE);
+        source(withoutComments(written));
+        String document = Files.readString(DOCUMENT);
+        asInTheDocument(document, written);
+        headings(document, written);
         System.out.println(wrong + " wrong");
         if (wrong != 0) {
             System.exit(1);
@@ -68,6 +73,38 @@ public final class FaceTests {
         due(made.length == 1 && made[0].getParameterCount() == 0 && Modifier.isPublic(made[0].getModifiers()),
             "one public constructor without numbers");
         due(Modifier.isFinal(GravesExchanged.class.getModifiers()), "the class is final");
+    }
+
+    // Each line of the document's face stands in the source, with the same names of numbers.
+    private static void asInTheDocument(String document, String written) {
+        Matcher line = Pattern.compile("(?m)^    (public [^;{]*);$").matcher(document);
+        int lines = 0;
+        while (line.find()) {
+            lines++;
+            String words = line.group(1);
+            due(written.contains("\n    " + words + (words.endsWith(")") ? " {" : ";")), "in the source stands " + words);
+        }
+        due(lines == FACE.split(" ").length + 2, "the document's face has the constants, the constructor and the calls");
+    }
+
+    // "Ahead of the calls `keep`, `back`, `count` the interface says: ---- kept."
+    private static void headings(String document, String written) {
+        Matcher told = Pattern.compile("(?m)^Ahead of the calls (.*) the interface says: (---- .*)\\.$").matcher(document);
+        int headings = 0;
+        while (told.find()) {
+            headings++;
+            int from = written.indexOf("\n    // " + told.group(2) + "\n");
+            int to = written.indexOf("\n    // ---- ", from + 1);
+            String part = from < 0 ? "" : written.substring(from, to < 0 ? written.length() : to);
+            Matcher call = Pattern.compile("(?m)^    public int (\\w+)\\(").matcher(part);
+            List<String> found = new ArrayList<>();
+            while (call.find()) {
+                found.add(call.group(1));
+            }
+            List<String> want = Arrays.asList(told.group(1).replace("`", "").split(", "));
+            due(found.equals(want), "behind " + told.group(2) + " come " + want + ", but there come " + found);
+        }
+        due(headings == 7, "the document tells seven headings");
     }
 
     private static void constants() {
